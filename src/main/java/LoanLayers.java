@@ -7,6 +7,7 @@ public final class LoanLayers {
     public static final int NONE = -1, UNKNOWN = -2, OUTSIDE = -3, NOT = -4, FULL = -5;
 
     private static final int TONGUES = 4;
+    private static final int PAIRS = TONGUES * TONGUES;
     private static final int SOUNDS = 26;
     private static final int LAST_DATE = 99;
     private static final int EVERYWHERE = 0, BEFORE = 1, AFTER = 2;
@@ -179,12 +180,12 @@ public final class LoanLayers {
             case 1: return one.to;
             case 2: return Form.length(one.word);
             case 3: return Form.length(one.end);
-            case 4: return windowsOf(one).kind();
-            case 5: return windowsOf(one).number;
-            case 6: return windowsOf(one).earliest();
-            case 7: return windowsOf(one).latest();
-            case 8: return layersNow().layerOf(loan);
-            case 9: return layersNow().olderThan(loan);
+            case 4: return windows.of(now, one).kind();
+            case 5: return windows.of(now, one).number;
+            case 6: return windows.of(now, one).earliest();
+            case 7: return windows.of(now, one).latest();
+            case 8: return layers.of(now, windows).layerOf(loan);
+            case 9: return layers.of(now, windows).olderThan(loan);
             default: return OUTSIDE;
         }
     }
@@ -202,10 +203,10 @@ public final class LoanLayers {
     public int window(int loan, int k, int what) {
         Loan one = now.loanAt(loan);
         if (one == null) return UNKNOWN;
-        Windows found = windowsOf(one);
-        if (found.firstOf(k) == NONE) return UNKNOWN;
+        int first = windows.of(now, one).firstOf(k);
+        if (first == NONE) return UNKNOWN;
         if (!within(what, 0, 1)) return OUTSIDE;
-        return what == 0 ? found.firstOf(k) : found.lastOf(k);
+        return what == 0 ? first : windows.lastOf(k);
     }
 
     public int taken(int loan, int date, int i) {
@@ -234,7 +235,7 @@ public final class LoanLayers {
 
     public int older(int loan, int other) {
         if (now.loanAt(loan) == null || now.loanAt(other) == null) return UNKNOWN;
-        return layersNow().isOlder(loan, other) ? 1 : 0;
+        return layers.of(now, windows).isOlder(loan, other) ? 1 : 0;
     }
 
     public int road(int word, int from, int end, int to, int k) {
@@ -254,7 +255,7 @@ public final class LoanLayers {
             case 3:
             case 4:
             case 5: return loansOfKind(what - 3);
-            case 6: return layersNow().greatest();
+            case 6: return layers.of(now, windows).greatest();
             case 7: return past.size;
             case 8: return text.length;
             case 9:
@@ -265,21 +266,11 @@ public final class LoanLayers {
         }
     }
 
-    private Windows windowsOf(Loan loan) {
-        windows.find(now, loan);
-        return windows;
-    }
-
-    private Layers layersNow() {
-        layers.find(now, windows);
-        return layers;
-    }
-
     private int loansOfKind(int kind) {
         int number = 0;
         for (int i = 0; i < MOST_LOANS; i++) {
             Loan one = now.loanAt(i);
-            if (one != null && windowsOf(one).kind() == kind) number++;
+            if (one != null && windows.of(now, one).kind() == kind) number++;
         }
         return number;
     }
@@ -295,7 +286,7 @@ public final class LoanLayers {
     }
 
     private static boolean isTongue(int number) {
-        return within(number, 0, TONGUES - 1);
+        return 0 <= number && number < TONGUES;
     }
 
     private static boolean isDate(int number) {
@@ -322,7 +313,7 @@ public final class LoanLayers {
         private static final int MASK = 31;
 
         static int soundAt(long form, int i) {
-            if (!within(i, 0, MOST_IN_FORM - 1)) return NONE;
+            if (i < 0 || i >= MOST_IN_FORM) return NONE;
             return (int) (form >>> (BITS * i) & MASK) - 1;
         }
 
@@ -362,20 +353,16 @@ public final class LoanLayers {
         long applied(long form) {
             long after = Form.EMPTY;
             int length = 0;
+            int aside = where == BEFORE ? 1 : -1;
             for (int i = 0; i < MOST_IN_FORM; i++) {
                 int sound = Form.soundAt(form, i);
                 if (sound == NONE) break;
-                int become = sound == x && holdsAt(form, i) ? y : sound;
-                if (become == NONE) continue;
-                after = Form.longer(after, length, become);
+                boolean changes = sound == x && (where == EVERYWHERE || Form.soundAt(form, i + aside) == z);
+                if (changes && y == NONE) continue;
+                after = Form.longer(after, length, changes ? y : sound);
                 length++;
             }
             return after;
-        }
-
-        private boolean holdsAt(long form, int i) {
-            if (where == EVERYWHERE) return true;
-            return Form.soundAt(form, where == BEFORE ? i + 1 : i - 1) == z;
         }
     }
 
@@ -396,13 +383,13 @@ public final class LoanLayers {
     private static final class World {
         private final Law[] laws = new Law[MOST_LAWS];
         private final Loan[] loans = new Loan[MOST_LOANS];
-        private final int[] first = new int[TONGUES * TONGUES];
-        private final int[] last = new int[TONGUES * TONGUES];
+        private final int[] first = new int[PAIRS];
+        private final int[] last = new int[PAIRS];
         int lawCount = 0;
         int loanCount = 0;
 
         World() {
-            for (int i = 0; i < first.length && i < last.length; i++) {
+            for (int i = 0; i < PAIRS; i++) {
                 first[i] = NONE;
                 last[i] = NONE;
             }
@@ -410,10 +397,9 @@ public final class LoanLayers {
 
         World copy() {
             World copy = new World();
-            System.arraycopy(laws, 0, copy.laws, 0, MOST_LAWS);
-            System.arraycopy(loans, 0, copy.loans, 0, MOST_LOANS);
-            System.arraycopy(first, 0, copy.first, 0, TONGUES * TONGUES);
-            System.arraycopy(last, 0, copy.last, 0, TONGUES * TONGUES);
+            for (int i = 0; i < MOST_LAWS; i++) copy.laws[i] = laws[i];
+            for (int i = 0; i < MOST_LOANS; i++) copy.loans[i] = loans[i];
+            for (int i = 0; i < PAIRS; i++) copy.setMeeting(i, first[i], last[i]);
             copy.lawCount = lawCount;
             copy.loanCount = loanCount;
             return copy;
@@ -422,7 +408,7 @@ public final class LoanLayers {
         void clear() {
             for (int i = 0; i < laws.length; i++) laws[i] = null;
             for (int i = 0; i < loans.length; i++) loans[i] = null;
-            for (int i = 0; i < TONGUES * TONGUES; i++) setMeeting(i, NONE, NONE);
+            for (int i = 0; i < PAIRS; i++) setMeeting(i, NONE, NONE);
             lawCount = 0;
             loanCount = 0;
         }
@@ -474,7 +460,7 @@ public final class LoanLayers {
         }
 
         void setMeeting(int pair, int a, int b) {
-            if (!within(pair, 0, TONGUES * TONGUES - 1)) return;
+            if (!within(pair, 0, PAIRS - 1)) return;
             first[pair] = a;
             last[pair] = b;
         }
@@ -554,12 +540,12 @@ public final class LoanLayers {
         int number = 0;
 
         /** Tries one date between laws for all of them: only laws make the results differ. */
-        void find(World world, Loan loan) {
+        Windows of(World world, Loan loan) {
             number = 0;
             int pair = pairOf(loan.from, loan.to);
             int start = world.firstOf(pair);
             int stop = world.lastOf(pair) + 1;
-            if (start == NONE) return;
+            if (start == NONE) return this;
             for (int i = 0; i <= MOST_LAWS; i++) {
                 Law law = world.lawAt(i);
                 int next = law == null ? stop : Math.min(law.date, stop);
@@ -567,6 +553,7 @@ public final class LoanLayers {
                 if (world.borrowed(loan.word, loan.from, loan.to, start) == loan.end) add(start, next - 1);
                 start = next;
             }
+            return this;
         }
 
         private void add(int from, int upTo) {
@@ -604,19 +591,20 @@ public final class LoanLayers {
         private final int[] last = new int[MOST_LOANS];
         private final int[] layer = new int[MOST_LOANS];
 
-        void find(World world, Windows windows) {
+        Layers of(World world, Windows windows) {
             for (int i = 0; i < MOST_LOANS; i++) {
                 Loan loan = world.loanAt(i);
                 layer[i] = 0;
                 first[i] = NONE;
                 last[i] = NONE;
                 if (loan == null) continue;
-                windows.find(world, loan);
+                windows.of(world, loan);
                 into[i] = loan.to;
                 first[i] = windows.earliest();
                 last[i] = windows.latest();
             }
             layByFirstDate();
+            return this;
         }
 
         /** An older loan has an earlier first date, so its layer stands before it is asked for. */
@@ -678,7 +666,8 @@ public final class LoanLayers {
             this.end = end;
             this.to = to;
             prepare(world);
-            for (number = 0; number <= MOST_STEPS; number++) {
+            for (int most = 0; most <= MOST_STEPS; most++) {
+                number = most;
                 if (leads(world, 0, 0, from, word)) return;
             }
             number = NONE;
@@ -697,7 +686,7 @@ public final class LoanLayers {
                 lawOf[law.date * TONGUES + law.tongue] = law;
                 busy[law.date] = true;
             }
-            for (int i = 0; i < TONGUES * TONGUES; i++) {
+            for (int i = 0; i < PAIRS; i++) {
                 int date = world.firstOf(i);
                 if (isDate(date)) busy[date] = true;
             }
@@ -757,9 +746,10 @@ public final class LoanLayers {
         private final int[] bytes = new int[MOST_BYTES];
         int length = 0;
         int clauses = 0;
-        // The token at hand: its first byte, and the place behind its last one.
+        // The token at hand: its first byte, the place behind its last one, and what it consists of.
         private int start = 0;
         private int end = 0;
+        private int kind = SIGN;
 
         void append(int letter) {
             if (!within(length, 0, bytes.length - 1)) return;
@@ -775,10 +765,11 @@ public final class LoanLayers {
         int read(World world) {
             end = 0;
             advance();
-            for (clauses = 1; clauses <= MOST_CLAUSES; clauses++) {
+            for (int clause = 1; clause <= MOST_CLAUSES; clause++) {
+                clauses = clause;
                 if (!readClause(world)) return start;
                 if (start >= length) return NONE;
-                if (clauses == MOST_CLAUSES || !isSign(';')) return start;
+                if (clause == MOST_CLAUSES || !isSign(';')) return start;
                 advance();
             }
             return start;
@@ -865,18 +856,18 @@ public final class LoanLayers {
         // These answer what the token at hand is, or that it is no such thing.
 
         private int number(int low, int high) {
-            if (kindAt(start) != DIGIT || end - start > 2) return NONE;
+            if (kind != DIGIT || end - start > 2) return NONE;
             int number = 0;
             for (int i = start; i < end; i++) number = 10 * number + byteAt(i) - '0';
             return within(number, low, high) ? number : NONE;
         }
 
         private int letter() {
-            return kindAt(start) == LETTER && end - start == 1 ? byteAt(start) - 'a' : NONE;
+            return kind == LETTER && end - start == 1 ? byteAt(start) - 'a' : NONE;
         }
 
         private long form(int most) {
-            if (kindAt(start) != LETTER || end - start > most) return Form.NO_FORM;
+            if (kind != LETTER || end - start > most) return Form.NO_FORM;
             long form = Form.EMPTY;
             for (int i = start; i < end; i++) form = Form.longer(form, i - start, byteAt(i) - 'a');
             return form;
@@ -904,18 +895,17 @@ public final class LoanLayers {
             start = end;
             while (start < length && byteAt(start) == ' ') start++;
             end = Math.min(start + 1, length);
-            int kind = kindAt(start);
-            while (kind != SIGN && end < length && kindAt(end) == kind) end++;
+            kind = kindOf(byteAt(start));
+            while (kind != SIGN && end < length && kindOf(byteAt(end)) == kind) end++;
         }
 
-        private int kindAt(int i) {
-            int one = byteAt(i);
-            if (within(one, 'a', 'z')) return LETTER;
-            return within(one, '0', '9') ? DIGIT : SIGN;
+        private static int kindOf(int letter) {
+            if ('a' <= letter && letter <= 'z') return LETTER;
+            return '0' <= letter && letter <= '9' ? DIGIT : SIGN;
         }
 
         private int byteAt(int i) {
-            return within(i, 0, length - 1) && i < bytes.length ? bytes[i] : NONE;
+            return i >= 0 && i < length && i < bytes.length ? bytes[i] : NONE;
         }
     }
 }

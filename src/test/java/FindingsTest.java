@@ -261,6 +261,12 @@ public final class FindingsTest {
         check.due("layer of 1", x.loan(1, 8), 1);
         check.due("layer of 2", x.loan(2, 8), 1);
         check.due("layer of 3", x.loan(3, 8), 2);
+        x.meet(2, 1, 99, 99);
+        check.due("layer of 3 at the last date", x.loan(3, 8), 2);
+        x.meet(3, 1, 98, 98);
+        check.due("and behind another one", x.loan(3, 8), 3);
+        x.meet(0, 1, 0, 0);
+        check.due("layer of 0 at the first date", x.loan(0, 8), 1);
     }
 
     private static void roadErrors() {

@@ -39,6 +39,20 @@ public final class TextTest {
         check.due("count(8)", x.count(8), 0);
         check.due("erase()", x.erase(), 0);
         check.due("type(97)", x.type(97), 1);
+        x.erase();
+        Check.type(x, "allx 12");
+        x.erase();
+        Check.type(x, "all");
+        check.due("fault() of all, typed over allx", x.fault(), -1);
+        check.due("tell()", x.tell(), 1);
+        Check.type(x, "al");
+        check.due("fault() of al, typed over all", x.fault(), 0);
+        x.erase();
+        Check.type(x, "meet 0 1 2 34");
+        x.erase();
+        Check.type(x, "meet 0 1 2 3");
+        check.due("tell()", x.tell(), 1);
+        check.due("meeting(0, 1, 1)", x.meeting(0, 1, 1), 3);
     }
 
     private static void fault(String text, int due) {
@@ -159,6 +173,8 @@ public final class TextTest {
     private static void meetFaults() {
         fault("meet", 4);
         fault("meet 0", 6);
+        fault("meet 0 1", 8);
+        fault("meet 0 1;", 8);
         fault("meet 0 1 5", 10);
         fault("meet 0 0 5 6", 7);
         fault("meet 3 03 5 6", 7);
