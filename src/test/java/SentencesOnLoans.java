@@ -282,6 +282,7 @@ final class SentencesOnLoans {
         s.due(x.loan(0, 8), 0);
         s.due(x.count(6), 0);
         oldestFirst();
+        onlyLoansThatAreThere();
         lastDate();
         greatestLayer();
     }
@@ -298,6 +299,25 @@ final class SentencesOnLoans {
             s.due(x.loan(loan, 9), loan);
             s.due(x.older(loan, 11), loan < 11 ? 1 : 0);
             s.due(x.older(0, loan), loan > 0 ? 1 : 0);
+        }
+    }
+
+    /** Loans that there are not yet, or no longer, are older than none, into whichever tongue. */
+    private void onlyLoansThatAreThere() {
+        for (int to = 0; to < 4; to++) {
+            int from = (to + 1) % 4;
+            int other = (to + 2) % 4;
+            Probe x = s.told("meet " + from + " " + to + " 50 60;loan " + from + " " + to + " a a");
+            s.due(x.loan(0, 8), 1);
+            s.due(x.loan(0, 9), 0);
+            s.due(x.count(6), 1);
+            x.tells("meet " + other + " " + to + " 0 40;loan " + other + " " + to + " a a");
+            s.due(x.loan(0, 8), 2);
+            s.due(x.loan(0, 9), 1);
+            s.due(x.drop(1), 1);
+            s.due(x.loan(0, 8), 1);
+            s.due(x.loan(0, 9), 0);
+            s.due(x.count(6), 1);
         }
     }
 
